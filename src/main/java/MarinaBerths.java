@@ -504,8 +504,8 @@ public final class MarinaBerths {
         int berth;
         int home;
         int owes;
+        // The day and the turn in which it began to wait; turns tell apart the boats of one day.
         int waitsSince;
-        // Tells apart boats that began to wait on the same day.
         int turn;
 
         void become(int newLength, int newDraft, int newBonus) {
@@ -513,8 +513,6 @@ public final class MarinaBerths {
             draft = newDraft;
             bonus = newBonus;
             owes = 0;
-            waitsSince = 0;
-            turn = 0;
             moveForGood(AWAY, NONE);
         }
 

@@ -12,6 +12,7 @@ final class ComingAndGoingTest {
         await();
         offer();
         waiting();
+        waitingOnOneDay();
         bestBerth();
         Checks.finish("ComingAndGoingTest");
     }
@@ -184,10 +185,15 @@ final class ComingAndGoingTest {
         Checks.due("it is in the berth", x.boat(2, 4), 0);
         Checks.due("it does not wait any more", x.info(9), 2);
         Checks.refused("a berth that is not free", x, Checks.STATE, () -> x.offer(0));
+        x.addBerth(300, 130, true, 0);
+        Checks.undoable("the first one fits", x, 0, () -> x.offer(2));
+        x.leave(2);
+        Checks.undoable("the last one", x, 1, () -> x.offer(0));
+        x.leave(1);
         winterTomorrow(x);
         Checks.refused("an exposed berth in winter", x, Checks.STATE, () -> x.offer(0));
         Checks.due("a sheltered one in winter", x.offer(1), NONE);
-        Checks.refused("no such berth", x, Checks.INDEX, () -> x.offer(2));
+        Checks.refused("no such berth", x, Checks.INDEX, () -> x.offer(3));
         Checks.refused("berth -1", x, Checks.INDEX, () -> x.offer(-1));
     }
 
@@ -214,6 +220,23 @@ final class ComingAndGoingTest {
         Checks.due("waiting(2147483647)", x.waiting(2147483647), NONE);
     }
 
+    private static void waitingOnOneDay() {
+        MarinaBerths x = new MarinaBerths();
+        for (int k = 0; k < 3; k++) {
+            x.addBoat(100, 100, 0);
+        }
+        x.await(2);
+        x.await(1);
+        x.leave(2);
+        x.await(2);
+        dueList(x, 1, 2);
+        x.undo();
+        x.undo();
+        dueList(x, 2, 1);
+        x.await(0);
+        dueList(x, 2, 1, 0);
+    }
+
     private static void dueList(MarinaBerths x, int... boats) {
         for (int k = 0; k < boats.length; k++) {
             int place = k;
@@ -229,12 +252,14 @@ final class ComingAndGoingTest {
         x.addBerth(250, 110, true, 0);
         x.addBerth(200, 110, true, 0);
         x.addBerth(200, 110, true, 0);
+        x.addBerth(201, 110, true, 0);
         x.addBerth(120, 100, true, 0);
+        x.addBerth(150, 115, true, 0);
         x.addBoat(100, 100, 0);
         x.addBoat(100, 90, 0);
         x.addBoat(121, 90, 0);
         Checks.onlyTold("smallest length, then smallest depth, then lowest", x, 2, () -> x.bestBerth(0));
-        Checks.due("the smallest length comes first", x.bestBerth(1), 4);
+        Checks.due("the smallest length comes first", x.bestBerth(1), 5);
         Checks.due("no berth is long enough", x.bestBerth(2), NONE);
         x.place(1, 2);
         Checks.due("a berth that is not free does not count", x.bestBerth(0), 3);

@@ -11,7 +11,9 @@ final class DaysAndBillsTest {
         winterTakesTheBestWay();
         winterLetsMostBoatsStay();
         springBringsHome();
+        winterInTheLowestBerth();
         springWhenTheHomeFitsNoMore();
+        springAndTheWaitingList();
         seasonsBeginOnlyOnTheirDays();
         pay();
         charge();
@@ -150,6 +152,30 @@ final class DaysAndBillsTest {
         dueBerths(x, NONE, 5, 4, NONE, 6);
     }
 
+    private static void winterInTheLowestBerth() {
+        MarinaBerths x = new MarinaBerths();
+        for (int k = 0; k < 16; k++) {
+            x.addBerth(300, 100, k > 0 && k < 15, 0);
+        }
+        for (int k = 0; k < 20; k++) {
+            x.addBoat(100, 100, 0);
+        }
+        x.place(17, 3);
+        x.place(18, 2);
+        x.place(19, 1);
+        x.set(2, 1);
+        x.pass(1);
+        Checks.due("boat(17, 4)", x.boat(17, 4), 0);
+        Checks.due("boat(18, 4)", x.boat(18, 4), 15);
+        Checks.due("boat(19, 4)", x.boat(19, 4), NONE);
+        x.undo();
+        x.undo();
+        Checks.setTable(x, "-171");
+        x.set(2, 1);
+        x.pass(1);
+        Checks.due("when no boat fits any berth", x.info(10), 3);
+    }
+
     private static void springBringsHome() {
         MarinaBerths x = new MarinaBerths();
         x.addBerth(300, 100, true, 0);
@@ -203,6 +229,33 @@ final class DaysAndBillsTest {
         x.set(0, 30);
         x.pass(3);
         dueBerths(x, 3, 2, NONE, NONE, NONE);
+    }
+
+    private static void springAndTheWaitingList() {
+        MarinaBerths x = new MarinaBerths();
+        x.addBerth(200, 100, true, 0);
+        x.addBerth(200, 100, true, 0);
+        x.addBoat(100, 100, 1);
+        x.addBoat(100, 100, 1);
+        x.addBoat(100, 100, 0);
+        x.addBoat(100, 100, 1);
+        x.place(1, 0);
+        x.place(0, 1);
+        x.set(2, 1);
+        x.set(3, 2);
+        x.pass(1);
+        x.set(0, 100);
+        x.addBerth(190, 100, true, 0);
+        Checks.setTable(x, "-1");
+        x.await(2);
+        x.pass(1);
+        x.await(3);
+        // All four have one point: boat 2 began first, then by spring the boats 0 and 1, then boat 3.
+        int[] list = {2, 0, 1, 3};
+        for (int k = 0; k < list.length; k++) {
+            Checks.due("waiting(" + k + ")", x.waiting(k), list[k]);
+            Checks.due("its points", x.boat(list[k], 5), 1);
+        }
     }
 
     private static void seasonsBeginOnlyOnTheirDays() {

@@ -307,6 +307,11 @@ final class WaterBerthsBoatsTest {
             int of = what;
             Checks.onlyTold("info(" + what + ")", x, facts[what], () -> x.info(of));
         }
+        Checks.setTable(x, "0");
+        x.place(0, 2);
+        x.leave(3);
+        Checks.setTable(x, "0,0,-101,-100");
+        Checks.due("boats aground, the first one being so", x.info(11), 1);
         Checks.refused("info(14)", x, Checks.ARGUMENT, () -> x.info(14));
         Checks.refused("info(-1)", x, Checks.ARGUMENT, () -> x.info(-1));
     }
