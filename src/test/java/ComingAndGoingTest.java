@@ -14,6 +14,7 @@ final class ComingAndGoingTest {
         waiting();
         waitingOnOneDay();
         bestBerth();
+        fullMarina();
         Checks.finish("ComingAndGoingTest");
     }
 
@@ -271,5 +272,36 @@ final class ComingAndGoingTest {
         Checks.due("in winter a sheltered one", x.bestBerth(0), 0);
         Checks.refused("no such boat", x, Checks.INDEX, () -> x.bestBerth(3));
         Checks.refused("boat -1", x, Checks.INDEX, () -> x.bestBerth(-1));
+    }
+
+    private static void fullMarina() {
+        MarinaBerths x = new MarinaBerths();
+        for (int k = 0; k < 16; k++) {
+            x.addBerth(300, 100, k >= 8, 0);
+        }
+        for (int k = 0; k < 20; k++) {
+            x.addBoat(100, 100, 0);
+        }
+        for (int k = 0; k < 16; k++) {
+            x.place(k, k);
+        }
+        for (int k = 16; k < 20; k++) {
+            Checks.due("await(" + k + ")", x.await(k), k - 16);
+        }
+        Checks.due("the last boat finds no berth", x.bestBerth(19), NONE);
+        winterTomorrow(x);
+        Checks.due("half of them are ashore", x.info(10), 8);
+        springTomorrow(x);
+        Checks.due("all are at home", x.info(8), 0);
+        x.leave(15);
+        Checks.due("the last berth", x.bestBerth(19), 15);
+        x.leave(16);
+        x.leave(17);
+        x.leave(18);
+        Checks.due("the last boat for the last berth", x.offer(15), 19);
+        Checks.due("the boat in it", x.berth(15, 4), 19);
+        Checks.due("nobody waits for it any more", x.waiting(0), NONE);
+        x.leave(0);
+        Checks.due("nobody waits for the first berth", x.offer(0), NONE);
     }
 }
