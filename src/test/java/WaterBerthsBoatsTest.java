@@ -56,6 +56,7 @@ final class WaterBerthsBoatsTest {
         Checks.undoable("setTable() with 14 numbers", x, 14, x::setTable);
         Checks.due("low(13)", x.low(13), -300);
         Checks.due("low(12)", x.low(12), 13);
+        Checks.undoable("a record of 14 numbers", x, 0, () -> x.pass(1));
     }
 
     private static void low() {
