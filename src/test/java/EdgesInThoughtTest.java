@@ -165,6 +165,9 @@ final class EdgesInThoughtTest extends Edges {
         tells(then(SUMMER, x -> x.leave(0)), "when the lower boat has left", 3, x -> x.winterBerth(1));
         // It is as winter does it then.
         tells(then(SUMMER, x -> winter(x)), "the berth when winter has begun", 3, x -> x.boat(0, 4));
+        // What was thought before does not count any more.
+        Start thought = then(SUMMER, x -> { x.winterBerth(0); x.wouldGoAshore(); x.leave(0); });
+        tells(thought, "the next one when the lowest has left after a thought", 3, x -> x.winterBerth(1));
         // Now, and not on the first day of winter: the clearance of now counts.
         tells(then(SUMMER, x -> x.set(0, 100)), "with a clearance of 100", 3, x -> x.winterBerth(0));
         tells(then(SUMMER, x -> table(x, "-200")), "with low water", NONE, x -> x.winterBerth(0));
@@ -223,6 +226,8 @@ final class EdgesInThoughtTest extends Edges {
         tells(FULL, "no boat in a berth", 0, x -> x.wouldGoAshore());
         tells(SUMMER, "one of two", 1, x -> x.wouldGoAshore());
         tells(then(SUMMER, x -> x.leave(2)), "with room for both", 0, x -> x.wouldGoAshore());
+        Start twice = then(SUMMER, x -> { x.wouldGoAshore(); x.leave(0); x.leave(1); x.place(4, 0); });
+        tells(twice, "another boat after a thought", 0, x -> x.wouldGoAshore());
         tells(then(SUMMER, x -> x.place(4, 3)), "with room for none", 2, x -> x.wouldGoAshore());
         tells(then(SUMMER, x -> table(x, "-171")), "when they fit nowhere", 2, x -> x.wouldGoAshore());
         tells(then(SUMMER, x -> table(x, "-170")), "when they just fit", 1, x -> x.wouldGoAshore());

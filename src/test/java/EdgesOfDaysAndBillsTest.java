@@ -252,6 +252,10 @@ final class EdgesOfDaysAndBillsTest extends Edges {
         tells(two, "the lower boat", 2, x -> x.boat(0, 4));
         tells(two, "the other one is ashore", 3, x -> x.boat(1, 3));
         tells(two, "free berths", 2, x -> x.info(8));
+        // In the next winter, too, when other boats are outside.
+        Start next = then(two, x -> { spring(x); x.leave(0); winter(x); });
+        tells(next, "the boat that was ashore the winter before", 2, x -> x.boat(1, 4));
+        tells(next, "boats ashore", 0, x -> x.info(10));
         Start full = start(x -> {
             berths(x, true, 8);
             berths(x, false, 8);
@@ -372,6 +376,18 @@ final class EdgesOfDaysAndBillsTest extends Edges {
         dueBerths(home, 0, 1, 2, NONE);
         tells(home, "the sheltered berth is free again", NONE, x -> x.berth(3, 4));
         tells(home, "state of a boat from the shore", 1, x -> x.boat(1, 3));
+        // All 16 berths and all 20 boats.
+        Start all = start(x -> {
+            berths(x, true, 16);
+            boats(x, 20);
+            for (int k = 0; k < 16; k++) {
+                x.place(k + 4, 15 - k);
+            }
+            winter(x);
+        });
+        tells(all, "boats ashore", 16, x -> x.info(10));
+        tells(then(all, x -> spring(x)), "free berths in spring", 0, x -> x.info(8));
+        tells(then(all, x -> spring(x)), "berth of the last boat", 0, x -> x.boat(19, 4));
         // With a clearance of 31 only berth 2 fits, which is 1 deeper.
         Start just = then(WINTER, x -> { x.set(0, 31); spring(x); });
         dueBerths(just, 3, NONE, 2, NONE);

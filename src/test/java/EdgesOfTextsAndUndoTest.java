@@ -78,6 +78,11 @@ final class EdgesOfTextsAndUndoTest extends Edges {
         refuses(cleared, "setTable() of the empty text", ARGUMENT, x -> x.setTable());
         tells(cleared, "low(1), the table staying", -2, x -> x.low(1));
         changesText(cleared, "type() into the empty text", 1, x -> x.type('8'));
+        // Nothing of what stood there counts any more.
+        tells(start(x -> { text(x, "-5"); text(x, ""); }), "fault() where a minus stood", 0, x -> x.fault());
+        tells(start(x -> { text(x, "1,-2"); text(x, "1,"); }), "fault() where -2 stood", 2, x -> x.fault());
+        tells(start(x -> { text(x, "12"); text(x, "-"); }), "fault() where a digit stood", 1, x -> x.fault());
+        tells(start(x -> { text(x, "1234"); text(x, "123"); }), "fault() where a 4th one stood", NONE, x -> x.fault());
         // An undo() does not bring it back.
         tells(then(cleared, x -> x.undo()), "fault() after an undo()", 0, x -> x.fault());
     }
